@@ -10,7 +10,7 @@ import java.util.TreeMap;
  * anew, and holds nothing that can be worked out.
  */
 public final class AgainstModel {
-  private static final int RUNS = 1500;
+  private static final int RUNS = 900;
   private static int wrong = 0;
   private static final TreeMap<String, Integer> seen = new TreeMap<>();
 
@@ -18,7 +18,10 @@ public final class AgainstModel {
     for (int run = 0; run < RUNS && wrong < 20; run++) {
       new Run(run).go();
     }
-    checkSeen(); if (args.length > 0) System.out.println(seen);
+    checkSeen();
+    if (args.length > 0) {
+      System.out.println(seen);
+    }
     System.out.println(wrong == 0 ? "all runs answer as the model does" : wrong + " answers differ");
     System.exit(wrong == 0 ? 0 : 1);
   }
@@ -107,6 +110,18 @@ public final class AgainstModel {
       return near(0, Math.max(0, model.jobs.size() - 1));
     }
 
+    /** Mostly a job that is open, or one that is planned, if there is one. */
+    int jobThatIs(boolean isOpen) {
+      int first = pick(Math.max(1, model.jobs.size()));
+      for (int n = 0; n < model.jobs.size() && pick(12) > 0; n++) {
+        int job = (first + n) % model.jobs.size();
+        if (model.vehicleOf(job) == -1 == isOpen) {
+          return job;
+        }
+      }
+      return job();
+    }
+
     int vehicle() {
       return near(0, Math.max(0, model.vehicles.size() - 1));
     }
@@ -137,7 +152,7 @@ public final class AgainstModel {
       int before = wrong;
       tell();
       int asked = 0;
-      int rounds = 24 + pick(30);
+      int rounds = 30 + pick(40);
       while (asked < rounds && wrong == before) {
         change();
         ask();
@@ -168,20 +183,29 @@ public final class AgainstModel {
     }
 
     void change() {
-      switch (pick(24)) {
+      switch (pick(30)) {
         case 0 -> addPlace();
         case 1 -> addVehicle();
-        case 2, 3 -> addJob();
-        case 4, 5 -> setHours();
-        case 6, 7, 8 -> insert();
-        case 9, 10, 11, 12 -> insertAt();
-        case 13 -> take();
-        case 14 -> rebuild();
-        case 15 -> ruin();
-        case 16, 17, 18 -> changeKind();
-        case 19 -> improve();
-        case 20, 21 -> repair();
-        default -> advance();
+        case 2 -> addJob();
+        case 3, 4, 5 -> setHours();
+        case 6, 7 -> insert();
+        case 8, 9, 10, 11, 12, 13, 14, 15 -> insertAt();
+        case 16, 17 -> take();
+        case 18 -> rebuild();
+        case 19 -> ruin();
+        case 20, 21, 22, 23 -> changeKind();
+        case 24 -> improve();
+        case 25, 26 -> repair();
+        default -> advanceOrInsert();
+      }
+    }
+
+    /** In some runs the clock stays for long, so that more can be changed. */
+    void advanceOrInsert() {
+      if (number % 3 == 0 && pick(8) > 0) {
+        insertAt();
+      } else {
+        advance();
       }
     }
 
@@ -215,7 +239,7 @@ public final class AgainstModel {
     }
 
     void setHours() {
-      int job = job();
+      int job = jobThatIs(false);
       boolean isFetched = pick(2) == 0;
       int from = near(0, pick(3) == 0 ? 1440 : 300);
       int to = pick(20) == 0 ? near(0, 1440) : Math.min(from + pick(width + 1), 1440);
@@ -228,7 +252,7 @@ public final class AgainstModel {
     }
 
     void insert() {
-      int job = job();
+      int job = jobThatIs(true);
       Object adds = same("insert(" + job + ")", () -> plan.insert(job), () -> model.insert(job));
       if (adds instanceof Integer) {
         note((Integer) adds < 0 ? "insert none" : "insert put");
@@ -236,7 +260,7 @@ public final class AgainstModel {
     }
 
     void insertAt() {
-      int job = job();
+      int job = jobThatIs(true);
       int vehicle = vehicle();
       int n = vehicle >= 0 && vehicle < model.vehicles.size() ? model.route(vehicle).size() : 0;
       int i = near(0, n);
@@ -249,7 +273,7 @@ public final class AgainstModel {
     }
 
     void take() {
-      int job = job();
+      int job = jobThatIs(false);
       if (same("take(" + job + ")", () -> plan.take(job), () -> model.take(job)) instanceof Integer) {
         note("take");
       }
@@ -303,13 +327,14 @@ public final class AgainstModel {
 
     void ask() {
       int job = job();
+      int open = jobThatIs(true);
       int vehicle = vehicle();
       int n = vehicle >= 0 && vehicle < model.vehicles.size() ? model.route(vehicle).size() : 0;
       int stop = near(0, Math.max(0, n - 1));
       int minutes = near(0, 1440);
       int kind = near(0, 3);
-      same("wouldAdd(" + job + ", " + vehicle + ")", () -> plan.wouldAdd(job, vehicle),
-          () -> model.wouldAdd(job, vehicle));
+      same("wouldAdd(" + open + ", " + vehicle + ")", () -> plan.wouldAdd(open, vehicle),
+          () -> model.wouldAdd(open, vehicle));
       same("laterBack(" + vehicle + ", " + stop + ", " + minutes + ")",
           () -> plan.laterBack(vehicle, stop, minutes),
           () -> model.laterBack(vehicle, stop, minutes));
