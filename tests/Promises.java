@@ -706,6 +706,16 @@ public final class Promises {
     due(12, "as kind 0 does it", "+0-0+1-1+2-2", () -> row(r, 0));
     due(12, "the other route stays", "+3-3+4-4", () -> row(r, 1));
     due(12, "then the other one", 20, () -> r.improve(10));
+
+    // Only the price for being used is less, by 1.
+    DroverPlan t = line();
+    t.addVehicle(0, 10, 0, 1440, 1, 6);
+    t.addVehicle(0, 10, 0, 1440, 1, 5);
+    t.addJob(1, 1, 1, 0, 0);
+    t.insertAt(0, 0, 0, 1);
+    due(38, "a gain of 1", 1, () -> t.gain(0));
+    due(12, "a gain of 1", 1, () -> t.improve(10));
+    due(12, "the cheaper vehicle", 1, () -> t.vehicleOf(0));
   }
 
   private static void repair() {
