@@ -1,29 +1,5 @@
 /** Each promise of the document by its number, with answers worked out by hand. */
-public final class Promises {
-  private static final String BOUNDS = "throws.IndexOutOfBoundsException";
-  private static final String ARGUMENT = "throws.IllegalArgumentException";
-  private static final String STATE = "throws.IllegalStateException";
-  private static int wrong = 0;
-  private static int asked = 0;
-
-  private interface Call {
-    Object run();
-  }
-
-  private static void due(int promise, String what, Object want, Call call) {
-    Object got;
-    try {
-      got = call.run();
-    } catch (RuntimeException e) {
-      got = "throws." + e.getClass().getSimpleName();
-    }
-    asked++;
-    if (!want.equals(got)) {
-      wrong++;
-      System.out.println("promise " + promise + ": " + what + " answered " + got + ", due is " + want);
-    }
-  }
-
+public final class Promises extends Check {
   public static void main(String[] args) {
     newObject();
     addPlace();
@@ -61,34 +37,7 @@ public final class Promises {
     laterBack();
     costWithout();
     digest();
-    System.out.println(wrong == 0 ? asked + " answers are as due" : wrong + " answers are not as due");
-    System.exit(wrong == 0 ? 0 : 1);
-  }
-
-  /** Places 0 to 6 on a line: at 0, 10, 20, 30, 40, 50, 60; place 7 above place 0, at y 10. */
-  private static DroverPlan line() {
-    DroverPlan p = new DroverPlan();
-    for (int x = 0; x <= 60; x += 10) {
-      p.addPlace(x, 0);
-    }
-    p.addPlace(0, 10);
-    return p;
-  }
-
-  /** The line, with a vehicle at place 0 for 10 loads, all day, of price 1, not fixed. */
-  private static DroverPlan oneVehicle() {
-    DroverPlan p = line();
-    p.addVehicle(0, 10, 0, 1440, 1, 0);
-    return p;
-  }
-
-  /** The jobs of a route in the order of its stops, "+" where fetched, "-" where brought. */
-  private static String row(DroverPlan p, int vehicle) {
-    StringBuilder text = new StringBuilder();
-    for (int s = 0; s < p.stops(vehicle); s++) {
-      text.append(p.isFetched(vehicle, s) ? "+" : "-").append(p.jobAt(vehicle, s));
-    }
-    return text.toString();
+    end();
   }
 
   // ---- what there is
